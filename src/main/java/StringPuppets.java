@@ -1134,8 +1134,10 @@ public final class StringPuppets {
         private int length = 0;
         private int firstLimb = 0;
         private int firstGoal = 0;
+        private int firstWeight = 0;
         private int secondLimb = 0;
         private int secondGoal = 0;
+        private int secondWeight = 0;
 
         private Search() {
         }
@@ -1143,8 +1145,10 @@ public final class StringPuppets {
         private int fewest(Puppet puppet, int i, int x, int j, int y) {
             firstLimb = i;
             firstGoal = x;
+            firstWeight = puppet.weightOf(i);
             secondLimb = j;
             secondGoal = y;
+            secondWeight = puppet.weightOf(j);
             Pose start = puppet.pose;
             for (int n = 0; n <= LONGEST_ROW; n++) {
                 length = n;
@@ -1163,8 +1167,8 @@ public final class StringPuppets {
             for (int m = 0; m < ALL_MOVES; m++) {
                 int nextLift = liftBehind(lift, m);
                 int nextTilt = tiltBehind(tilt, m);
-                int nextFirst = wornBehind(firstWorn, puppet.weightOf(firstLimb), nextTilt);
-                int nextSecond = wornBehind(secondWorn, puppet.weightOf(secondLimb), nextTilt);
+                int nextFirst = wornBehind(firstWorn, firstWeight, nextTilt);
+                int nextSecond = wornBehind(secondWorn, secondWeight, nextTilt);
                 put(row, length - left, m);
                 if (reaches(puppet, left - 1, nextLift, nextTilt, nextFirst, nextSecond)) {
                     return true;
