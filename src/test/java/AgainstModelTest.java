@@ -5,8 +5,9 @@ import java.util.Random;
 
 /** Long runs of calls, ordinary, at the edges and wild, that the class and PuppetModel must answer alike. */
 public final class AgainstModelTest {
-    private static final int RUNS = 400;
-    private static final int CALLS = 512;
+    private static final int RUNS = 800;
+    /** A digest behind each of them: 512 calls in all, behind which nothing is promised. */
+    private static final int CALLS = 256;
     private static final String[] NAMES = {
         "puppet", "limb", "type", "clear", "read", "moves", "ties", "hangs", "undo", "of", "touch", "safe", "few",
         "both", "hole", "beat", "dance", "comesOut", "snaps", "seen", "heavy", "tell", "note", "mark", "forget", "is",

@@ -123,15 +123,15 @@ public final class LanguageTest {
     private static void makesNothing() {
         com.sun.management.ThreadMXBean bean = (com.sun.management.ThreadMXBean) ManagementFactory.getThreadMXBean();
         long thread = Thread.currentThread().getId();
+        everyCall(new StringPuppets());
         StringPuppets x = new StringPuppets();
-        everyCall(x);
         bean.getThreadAllocatedBytes(thread);
         long before = bean.getThreadAllocatedBytes(thread);
-        for (int k = 0; k < 20; k++) {
+        for (int k = 0; k < 4; k++) {
             everyCall(x);
         }
         long made = bean.getThreadAllocatedBytes(thread) - before;
-        expect(made < 10000, "12: calls made " + made + " bytes");
+        expect(made < 64, "12: calls made " + made + " bytes");
     }
 
     private static void everyCall(StringPuppets x) {
