@@ -11,6 +11,7 @@ public final class EdgesOfKeepingTest {
         heavyAllOneNone();
         heavyOfSeenOnesNotWorn();
         tellTheLeastOfLikeOnes();
+        tellFromAHoleAt30();
         tellNone();
         isAllOneNone();
         lookNoneAndLeast();
@@ -25,6 +26,7 @@ public final class EdgesOfKeepingTest {
         undoCountsNothingRefused();
         undoLeavesTheRest();
         imagesKeepAll();
+        imagesKeepWhatIsToldAnewBehind();
         imagesAreApart();
         imagesOfNoLimbs();
         puppetMakesAllElseAsAtFirst();
@@ -153,6 +155,23 @@ public final class EdgesOfKeepingTest {
         x.seen(0, 10, 13, 2);
         Due.is("23: WEIGHTS 3, 4, 5: never parted", x.heavy(0, 1) * 10 + x.heavy(0, 2), 35);
         Due.is("23: WEIGHTS 3, 4, 5: never parted", x.tell(0), 1);
+    }
+
+    /** A foot is 9 at most, so a length parts weights only where it brings the greater ones of them below 9. */
+    private static void tellFromAHoleAt30() {
+        StringPuppets x = Made.one(20, 2, 2, 1, 9);
+        for (int least = 1; least <= 8; least++) {
+            x.forget(0);
+            // 9 at most: none heavier than the next one; 0 at least: none lighter than this
+            x.seen(0, 1, 11 + least, 9);
+            x.seen(0, 1, 1 + least, 0);
+            heavy("22: two WEIGHTS", x, 0, 2, least, least + 1);
+            Due.is("23: " + least + " and the next one at 9 and 8", x.tell(0), 21 - least);
+        }
+        x.forget(0);
+        x.seen(0, 1, 4, 1);
+        Due.is("23: one WEIGHT", x.heavy(0, 1), 2);
+        Due.is("23: one WEIGHT: the least LENGTH", x.tell(0), 1);
     }
 
     private static void tellNone() {
@@ -398,7 +417,7 @@ public final class EdgesOfKeepingTest {
             same.image(i);
             x.puppet(3);
             x.limb(5, 5, 5, 5, 5);
-            Made.move(x, 4, LEFT);
+            Made.move(x, 12, LEFT);
             x.beat(0, UP, 9);
             x.dance(6);
             Due.is("36: it goes on", x.from(i), 1);
@@ -414,6 +433,28 @@ public final class EdgesOfKeepingTest {
             x.forget(1);
             x.from(i);
             Due.is("36: not changed by what comes behind", x.digest(), same.digest());
+        }
+    }
+
+    private static void imagesKeepWhatIsToldAnewBehind() {
+        for (int i = 0; i <= 1; i++) {
+            StringPuppets x = Made.full();
+            StringPuppets same = Made.full();
+            x.image(i);
+            x.puppet(20);
+            for (int k = 0; k < 7; k++) {
+                x.limb(5 - k % 6, 5 - k % 6, 9 - k, 20 - k, 8 - k);
+            }
+            for (int k = 0; k < 6; k++) {
+                x.seen(6, 20, 60, -40);
+                x.note(6, 20, 9, 99, 60);
+                x.mark(6, -40, 99, 60);
+            }
+            for (int t = 0; t < 8; t++) {
+                x.beat(t, UP, 60);
+            }
+            x.from(i);
+            Due.is("36: nothing of what came behind", x.digest(), same.digest());
         }
     }
 
@@ -475,6 +516,10 @@ public final class EdgesOfKeepingTest {
         Due.is("2: IMAGES stay", x.count(4), 11);
         x = Made.full();
         Due.is("2: seven", x.puppet(20), 7);
+        int[] bare = {0, 0, 20, 0, 0, 0, 0, 0, 0, 0, 150};
+        for (int k = 0; k < bare.length; k++) {
+            Due.is("2: behind a full one count(" + k + ")", x.count(k), bare[k]);
+        }
     }
 
     private static void counts() {

@@ -7,6 +7,7 @@ public final class EdgesOfLooksTest {
         touchNone();
         touchAll();
         touchNoneSnapped();
+        touchNoneNotThere();
         safeBetween1And60();
         safeOfOneSnapped();
         fewNoMoves();
@@ -21,6 +22,7 @@ public final class EdgesOfLooksTest {
         holeOfLikeOnesTheLeast();
         holeOfOneSnapped();
         comesOutNoneAndAll();
+        comesOutEightAtMost();
         comesOutOneBehindTheOther();
         danceOfALimbNotThere();
         snapsFirstAndLastBeat();
@@ -84,6 +86,17 @@ public final class EdgesOfLooksTest {
         Due.is("12: -20, not SNAPPED", x.of(0, 7), -20);
         Due.is("12: -20, SNAPPED", x.of(1, 7) * 10 + x.of(1, 6), -199);
         Due.is("12: these do not touch", x.touch(-1), 0);
+    }
+
+    private static void touchNoneNotThere() {
+        StringPuppets x = heads(20, 7);
+        x.puppet(20);
+        x.limb(0, 0, 1, 10, 4);
+        Due.is("12: none of a puppet that is no more", x.touch(-1), 0);
+        x.puppet(20);
+        x.limb(5, 0, 1, 3, 4);
+        Due.is("12: one LIMB, as HIGH as THE BAR", x.of(0, 7), 20);
+        Due.is("12: one LIMB, as HIGH as THE BAR", x.touch(-1), 0);
     }
 
     private static void safeBetween1And60() {
@@ -258,8 +271,9 @@ public final class EdgesOfLooksTest {
         hole("16: all alike", x, 60, 0, 50);
         Made.move(x, 2, RIGHT);
         // 2, 4, 6, 8, 10, 12, 14, 16, 18
-        hole("16: just so", x, 2, 0, 0);
-        hole("16: just so", x, 18, 8, 0);
+        for (int which = 0; which <= 8; which++) {
+            hole("16: just so", x, 2 + 2 * which, which, 0);
+        }
         hole("16: between two", x, 17, 7, 1);
         hole("16: below all", x, -40, 0, 42);
         hole("16: above all", x, 60, 8, 42);
@@ -298,6 +312,15 @@ public final class EdgesOfLooksTest {
         }
     }
 
+    private static void comesOutEightAtMost() {
+        StringPuppets x = Made.bar(0);
+        x.limb(2, 0, 1, 20, 4);
+        for (int t = 0; t < 8; t++) {
+            x.beat(t, t % 5, 0);
+        }
+        Due.is("19: a foot, 0 HIGH whatever is done: 8 BEATS", x.comesOut(), 8);
+    }
+
     private static void comesOutOneBehindTheOther() {
         StringPuppets x = Made.one(38, 4, 0, 1, 10);
         // up: 40, odd: 29; down: 37, even: 27; down: 34, odd: 23; still, even: 24; up: 37, odd: 26; up: 40, even: 30
@@ -326,6 +349,15 @@ public final class EdgesOfLooksTest {
         Due.is("19: a LIMB not there: 0 come out", x.comesOut(), 0);
         Made.move(x, 5, STILL);
         Due.is("20: STRINGS snap, whoever dances", x.snaps(), 5);
+        x.puppet(20);
+        for (int t = 0; t < 8; t++) {
+            x.beat(t, STILL, t < 4 ? 0 : 20);
+        }
+        Due.is("19: no LIMB any more, neither 0 nor as HIGH as THE BAR", x.comesOut(), 0);
+        Due.is("32: nor by any chance", x.slack(1, 5) * 100 + x.part(0) * 10 + x.part(1), 101);
+        Due.is("32: nor by any chance", x.slack(6, 5) * 100 + x.part(0) * 10 + x.part(1), 101);
+        x.limb(0, 0, 9, 20, 4);
+        Due.is("19: half of them", x.comesOut(), 4);
     }
 
     private static void snapsFirstAndLastBeat() {

@@ -201,6 +201,9 @@ public final class EdgesOfTextTest {
         // 27 behind three, 45, 63, 81 behind six: one MOVE less than it takes
         fault("puppet 20;" + LIMB + "move 3 3 3 3 3 3;tie 0;", 46);
         StringPuppets x = new StringPuppets();
+        Made.read(x, "puppet 20;" + LIMB + LIMB + "move 3 3 3 3 3 3 3;");
+        Due.is("6: the second LIMB was another puppet's", Made.read(x, "puppet 20;" + LIMB + "tie 1;"), -10 - 29);
+        Due.is("6: the second LIMB was another puppet's", Made.read(x, torn + "hang 1 1;"), -10 - 49);
         Made.read(x, torn + "tie 0;");
         Due.is("6: SNAPPED no more", x.of(0, 6), 0);
         Due.is("6: WORN by 0", x.of(0, 5), 0);
@@ -225,7 +228,9 @@ public final class EdgesOfTextTest {
     }
 
     private static void wordsThatAreNone() {
-        String[] words = {"a", "z", "lim", "limbs", "mov", "moves", "ti", "ties", "han", "hangs", "puppe", "puppets", "bmil"};
+        String[] words = {"a", "z", "lim", "limbs", "mov", "moves", "ti", "ties", "han", "hangs", "puppe", "puppets",
+            "bmil", "himb", "lomb", "lilb", "limp", "love", "mive", "mode", "mova", "die", "tee", "tin", "bang", "hung", "hand",
+            "muppet", "puppat", "pupped"};
         for (String word : words) {
             fault("puppet 20;" + word + " 0;", 10);
             fault(word + " 20;", 0);
@@ -374,6 +379,12 @@ public final class EdgesOfTextTest {
             Due.is("6: IMAGES stay", x.digest(), same.digest());
         }
         Due.is("6: what may be undone is the IMAGE's", x.undo(), same.undo());
+        x = Made.full();
+        Due.is("6: read", Made.read(x, "puppet 40;"), 1);
+        int[] bare = {0, 0, 40, 0, 0, 0, 0, 0, 0, 0, 10};
+        for (int k = 0; k < bare.length; k++) {
+            Due.is("6: behind a full one count(" + k + ")", x.count(k), bare[k]);
+        }
         // at first all beats tell 0: a head that is 0 high comes out eight times
         Due.is("6: how HIGH as at first", Made.read(x, "puppet 20;limb 0 0 1 20 4;"), 2);
         Due.is("6: how HIGH as at first", x.comesOut(), 8);

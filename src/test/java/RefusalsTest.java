@@ -12,6 +12,9 @@ public final class RefusalsTest {
         looksWhenHung();
         looksWhenFull();
         looksWithoutLimbs();
+        looksBehindLooks(Made::hung);
+        looksBehindLooks(Made::full);
+        looksBehindLooks(RefusalsTest::knee);
         slackChangesTheFractionAlone();
         statusCounts();
         Due.finish();
@@ -156,15 +159,44 @@ public final class RefusalsTest {
         hung("39: digest", x -> x.digest() - x.digest(), 0);
     }
 
-    private static void looksWhenFull() {
-        Twins.Call[] looks = {
-            x -> x.of(6, 7), x -> x.touch(-1), x -> x.safe(6), x -> x.few(6, 60, -1), x -> x.both(5, 60, 6, 60),
-            x -> x.hole(6, 60, 1), x -> x.comesOut(), x -> x.snaps(), x -> x.heavy(6, 0), x -> x.tell(6), x -> x.is(6),
-            x -> x.look(6), x -> x.kinds(6), x -> x.ask(6), x -> x.hands(5, 6, -1), x -> x.nights(999999, 60),
+    private static Twins.Call[] looksAt(int i, int j) {
+        return new Twins.Call[] {
+            x -> x.of(j, 7), x -> x.touch(-1), x -> x.safe(j), x -> x.few(j, 9, -1), x -> x.both(i, 9, j, 9),
+            x -> x.hole(j, 60, 1), x -> x.comesOut(), x -> x.snaps(), x -> x.heavy(j, 0), x -> x.tell(j), x -> x.is(j),
+            x -> x.look(j), x -> x.kinds(j), x -> x.ask(j), x -> x.hands(i, j, -1), x -> x.nights(999999, 60),
             x -> x.part(0), x -> x.status(0), x -> x.count(10), x -> x.digest()};
+    }
+
+    private static void looksWhenFull() {
+        Twins.Call[] looks = looksAt(5, 6);
         for (int k = 0; k < looks.length; k++) {
             Twins.unchanged("look " + k, Made::full, looks[k], looks[k].on(Made.full()));
         }
+    }
+
+    /** A look answers the same whatever was asked just ahead of it. */
+    private static void looksBehindLooks(Twins.State state) {
+        for (Twins.Call[] looks : new Twins.Call[][] {looksAt(1, 0), looksAt(0, 1)}) {
+            for (int behind = 0; behind < looks.length; behind++) {
+                long due = looks[behind].on(state.make());
+                for (int ahead = 0; ahead < looks.length; ahead++) {
+                    StringPuppets x = state.make();
+                    looks[ahead].on(x);
+                    Due.is("look " + behind + " behind look " + ahead, looks[behind].on(x), due);
+                }
+            }
+        }
+    }
+
+    /** A knee of weight 8 or 9, 1 or 0 high by the last length that tell tries, on silk or wire. */
+    private static StringPuppets knee() {
+        StringPuppets x = Made.bar(20);
+        x.limb(3, 2, 8, 20, 4);
+        x.limb(0, 0, 1, 1, 4);
+        x.seen(0, 20, 29, 0);
+        x.note(0, 9, 9, 0, 9);
+        x.mark(0, -40, 0, -40);
+        return x;
     }
 
     private static void looksWithoutLimbs() {

@@ -39,6 +39,7 @@ final class Twins {
     /** All that can be learned of an object, the counts of STATUS apart; the object is used up by it. */
     private static List<Long> seenOf(StringPuppets x) {
         List<Long> seen = new ArrayList<>();
+        addLooks(seen, x);
         addPuppet(seen, x);
         for (int image = 0; image <= 1; image++) {
             seen.add((long) x.from(image));
@@ -49,6 +50,22 @@ final class Twins {
         seen.add((long) x.read());
         seen.add(x.digest());
         return seen;
+    }
+
+    /** What a call might leave behind in rows that looks share. */
+    private static void addLooks(List<Long> seen, StringPuppets x) {
+        int limbs = x.count(0);
+        for (int i = 0; i < limbs; i++) {
+            int other = (i + 1) % limbs;
+            long[] looks = {x.of(i, 7), x.safe(i), x.hole(i, 5, 0), x.few(i, 9, 0), x.both(i, 9, other, 9), x.heavy(i, 1),
+                x.tell(i), x.is(i), x.look(i), x.kinds(i), x.ask(i), x.hands(i, other, 0)};
+            for (long look : looks) {
+                seen.add(look);
+            }
+        }
+        for (long look : new long[] {x.touch(-1), x.touch(0), x.comesOut(), x.snaps(), x.nights(7, 9)}) {
+            seen.add(look);
+        }
     }
 
     private static void addPuppet(List<Long> seen, StringPuppets x) {
