@@ -22,8 +22,9 @@ public final class LanguageTest {
         "int kinds(int)", "int ask(int)", "int hands(int,int,int)", "int slack(int,int)", "int nights(int,int)",
         "long part(int)", "int image(int)", "int from(int)", "int status(int)", "int count(int)", "long digest()"};
     private static final String FORBIDDEN =
-        "\\b(throw|throws|try|catch|finally|synchronized|assert|import|package|protected|record|System|Exact|Object"
-        + "|hashCode|toString|native|volatile|transient|double|float)\\b|->|::|@";
+        "\\b(throw|throws|try|catch|finally|synchronized|assert|import|package|protected|record|System|\\w*Exact|Object"
+        + "|hashCode|toString|native|volatile|transient|double|float)\\b|->|::|@|\"\\s*\\+|\\+\\s*\"|while \\(true|for \\(;";
+    private static final Set<String> LIBRARY = Set.of("Integer.bitCount", "Math.abs", "Math.max", "Math.min");
     private static int wrong = 0;
 
     public static void main(String[] args) throws Exception {
@@ -65,6 +66,10 @@ public final class LanguageTest {
         Matcher m = Pattern.compile(FORBIDDEN).matcher(code);
         while (m.find()) {
             expect(false, "the source has " + m.group());
+        }
+        Matcher called = Pattern.compile("\\b[A-Z]\\w*\\.\\w+(?=\\()").matcher(code);
+        while (called.find()) {
+            expect(LIBRARY.contains(called.group()), "4: the source calls " + called.group());
         }
         boolean inMethod = false;
         int lines = 0;
